@@ -665,11 +665,8 @@ public final class SilkTariff {
             if (good >= MOST_GOODS) {
                 return refuse(NO_ROOM, good);
             }
+            // All else in the row is 0: undo and restore take over the empty rows, too.
             Table goods = house.goods;
-            // The row may hold a good that was undone.
-            for (int column = 0; column < GOOD_WIDTH; column++) {
-                goods.set(good, column, 0);
-            }
             goods.set(good, MADE_AS, form);
             goods.set(good, KILOS, kilos);
             goods.set(good, WORTH, coins);

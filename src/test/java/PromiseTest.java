@@ -115,6 +115,8 @@ public final class PromiseTest {
         dueReason(x, 1, 10);
         due(x.heading(12, 0, 0, 0, 0), REFUSED);
         dueReason(x, 2, 12);
+        due(x.heading(1, 0, 0, 0, 0), REFUSED);
+        dueReason(x, 2, 1);
         due(x.heading(12, 0, 0, 0, 21), BAD);
         due(x.account(1), 10);
         due(x.account(13), 8);
@@ -338,6 +340,9 @@ public final class PromiseTest {
         x.work(1, 1, 10);
         x.work(1, 0, 5);
         due(x.goodOf(1, 5), 0);
+        x.good(0, 1, 999, 0, 0, 0);
+        x.favour(0, 100);
+        due(x.goodOf(2, 7), 299);
     }
 
     private static void part() {
@@ -417,6 +422,16 @@ public final class PromiseTest {
         due(x.fit(1, 1), 13);
         due(x.fit(1, 2), 99);
         due(x.fit(1, 3), NONE);
+        SilkTariff y = new SilkTariff();
+        for (int code = 1; code <= 10; code++) {
+            y.heading(code, 4, 3, 0, 0);
+        }
+        y.good(0, 1, 1, 0, 0, 0);
+        for (int at = 0; at < 10; at++) {
+            due(y.fit(0, at), 10 - at);
+        }
+        due(y.fit(0, 10), 99);
+        due(y.fit(0, 11), NONE);
     }
 
     private static void fitAgain() {
@@ -647,6 +662,9 @@ public final class PromiseTest {
         due(x.cheapest(0), 0);
         x.favour(3, 1);
         due(x.cheapest(0), 0);
+        x.favour(1, 5);
+        due(x.cheapest(0), 1);
+        x.favour(1, 0);
         x.favour(3, 10);
         due(x.cheapest(0), 3);
         x.favour(2, 10);
@@ -684,6 +702,15 @@ public final class PromiseTest {
         }
         x.export(2);
         due(x.ranked(0), 2);
+        SilkTariff y = new SilkTariff();
+        y.good(0, 1, 500, 0, 0, 0);
+        y.good(0, 1, 300, 0, 0, 0);
+        due(y.ranked(0), 0);
+        due(y.ranked(1), 1);
+        y.favour(0, 50);
+        y.work(0, 0, 1);
+        due(y.ranked(0), 1);
+        due(y.ranked(1), 0);
         due(x.ranked(5), NONE);
         due(x.ranked(-1), NONE);
         due(x.ranked(LOW), NONE);
@@ -752,7 +779,7 @@ public final class PromiseTest {
             {"head 1 ** 2 3 ", 13}, {"head 1  **", 7}, {"strike", 6}, {"strike 100", 9}, {"stroke", 3}, {"s", 1},
             {"good * 1 1 1/1/1", 5}, {"good tc", 6}, {"good t 100 1 1/1/1", 9}, {"good t 10 1000 1/1/1", 13},
             {"good t 10 100 1000/1/1", 17}, {"good t 1 1 1", 12}, {"good t 1 1 1/1", 14}, {"good t 1 1 1/1/", 15},
-            {"good t 1 1 1 1/1", 12}, {"good t 1 1 1/1/1/", 16}, {"good t 1 1 1/1/1000", 18}, {"goods", 4},
+            {"good t 1 1 1 1/1", 12}, {"good t 1 1 1/1/1/", 16}, {"good t 1 1 1/1000/1", 16}, {"good t 1 1 1/1/1000", 18}, {"goods", 4},
             {"work 1 10 5", 8}, {"work 100 1 5", 7}, {"work 1 1 100", 11}, {"work 1 1", 8}, {"work 1 1 ", 9}, {"worn", 3},
             {"favour 12=5", 8}, {"favour 1 5", 8}, {"favour 1=", 9}, {"favour 1=1000", 12}, {"favor", 4}, {"favour 1=-1", 9},
             {"coins 12345", 10}, {"coins ", 6}, {"coin", 4}, {"coins x", 6}, {"coins -", 6}, {"enter 123", 8}, {"e", 1}, {"ea", 1},
@@ -853,6 +880,10 @@ public final class PromiseTest {
         dueText(line(x), "8:*g9%+10");
         due(x.tellHeading(99), 8);
         dueText(line(x), "99:**30%");
+        x.heading(98, 0, 0, 1, 1);
+        due(x.tellHeading(98), 9);
+        dueText(line(x), "98:st1%+1");
+        due(x.tellHeading(99), 8);
         due(x.tellHeading(9), NONE);
         due(x.tellHeading(0), NONE);
         due(x.tellHeading(LOW), NONE);
@@ -957,6 +988,25 @@ public final class PromiseTest {
         due(x.isBalanced(), 1);
         x.strike(16);
         due(x.isBalanced(), 1);
+        SilkTariff y = new SilkTariff();
+        y.coins(1000);
+        for (int good = 0; good < 4; good++) {
+            y.good(good % 3, 1, 200, 100 - good * 33, 0, 0);
+            y.work(good, good, 1);
+            y.enter(good);
+            due(y.isBalanced(), 1);
+        }
+        y.heading(3, 0, 2, 5, 0);
+        y.export(0);
+        due(y.isBalanced(), 1);
+        y.days(31);
+        y.export(3);
+        due(y.isBalanced(), 1);
+        y.save();
+        y.export(2);
+        due(y.isBalanced(), 1);
+        y.restore();
+        due(y.isBalanced(), 1);
     }
 
     private static void meanDuty() {
@@ -1086,6 +1136,72 @@ public final class PromiseTest {
         }
     }
 
+    // Each kind of change is undone from a house in which much has been before.
+    private static void undoOfEachKind() {
+        start(32);
+        SilkTariff x = new SilkTariff();
+        x.heading(1, 3, 0, 10, 1);
+        x.good(0, 1, 50, 0, 0, 0);
+        x.good(1, 1, 50, 0, 0, 0);
+        x.work(0, 1, 3);
+        x.coins(77);
+        x.favour(3, 3);
+        for (int day = 1; day <= 12; day++) {
+            x.days(1);
+        }
+        int[] before = stateOf(x);
+        for (int kind = 0; kind < 10; kind++) {
+            boolean isDone = change(x, kind) >= 0;
+            due(isDone ? 1 : 0, 1);
+            due(x.account(13), 8);
+            due(x.undo(), 7);
+            int[] after = stateOf(x);
+            for (int i = 0; i < before.length; i++) {
+                due(after[i], before[i]);
+            }
+            x.days(1);
+            x.undo();
+            x.favour(3, 3);
+        }
+    }
+
+    private static int change(SilkTariff x, int kind) {
+        switch (kind) {
+            case 0: return x.heading(2, 3, 0, 10, 1);
+            case 1: return x.strike(1);
+            case 2: return x.good(2, 5, 5, 5, 5, 5);
+            case 3: return x.work(0, 2, 9);
+            case 4: return x.favour(3, 100);
+            case 5: return x.coins(1000);
+            case 6: return x.enter(0);
+            case 7: return x.export(1);
+            case 8: return x.days(99);
+            default: return run(x, "coins 1;strike 1;enter 0");
+        }
+    }
+
+    private static int[] stateOf(SilkTariff x) {
+        int[] state = new int[12 + 3 * 11 + 3 * 6 + 10];
+        int next = 0;
+        for (int what = 0; what < 12; what++) {
+            state[next++] = x.account(what);
+        }
+        for (int good = 0; good < 3; good++) {
+            for (int what = 0; what <= 10; what++) {
+                state[next++] = x.goodOf(good, what);
+            }
+            for (int country = 0; country <= 5; country++) {
+                state[next++] = x.points(good, country);
+            }
+        }
+        for (int place = 0; place < 2; place++) {
+            for (int what = 0; what < 5; what++) {
+                state[next++] = x.headingOf(x.code(place), what);
+            }
+        }
+        return state;
+    }
+
     private static void save() {
         start(33);
         SilkTariff x = new SilkTariff();
@@ -1200,6 +1316,7 @@ public final class PromiseTest {
         backShare();
         undo();
         undoOfFailures();
+        undoOfEachKind();
         save();
         restore();
         System.out.println(wrong == 0 ? "all promises hold" : wrong + " checks failed");
