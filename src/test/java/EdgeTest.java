@@ -232,6 +232,12 @@ public final class EdgeTest extends Checks {
             due(x.headingOf(50, 4), good);
             due(x.headingOf(99, 4), 0);
         }
+        says("Promise 4", "4 for the goods that have it now, however they are");
+        x.work(0, 1, 1);
+        x.coins(9);
+        x.enter(0);
+        x.export(1);
+        due(x.headingOf(50, 4), 12);
         x.strike(50);
         due(x.headingOf(99, 4), 12);
         due(x.headingOf(50, 4), NONE);
@@ -448,6 +454,9 @@ public final class EdgeTest extends Checks {
                 last++;
             }
             due(full.fit(good, last), 99);
+            for (int place = last + 1; place <= 12; place++) {
+                due(full.fit(good, place), NONE);
+            }
         }
         due(full.tellHeading(99), 8);
         dueText(line(full), "99:**30%");
@@ -769,6 +778,8 @@ public final class EdgeTest extends Checks {
                 }
                 due(x.export(0), each[1]);
                 due(x.goodOf(0, 9), each[1]);
+                due(x.goodOf(0, 8), 99);
+                due(x.goodOf(0, 10), before);
                 due(x.account(9), each[1]);
                 due(x.account(6), 1 + each[1]);
             }

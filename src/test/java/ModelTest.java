@@ -14,8 +14,10 @@ public final class ModelTest {
     private static final int REFUSED = -14;
     private static final int NOTHING = -15;
 
-    private static final int RUNS = 1500;
+    private static final int RUNS = 4500;
+    // What later calls answer is free; a step makes at most so many calls, with what is compared behind it and at the end.
     private static final int CALLS = 512;
+    private static final int STEP_CALLS = 62 + 21 + 21 + 37;
 
     private record Heading(int code, int fibre, int form, int rate, int perKilo) {
     }
@@ -498,10 +500,13 @@ public final class ModelTest {
     }
 
     private static Random random;
+    private static int calls;
+    private static boolean isOfTexts;
     private static int wrong;
     private static String place = "";
 
     private static void due(String call, double got, double want) {
+        calls++;
         if (got != want) {
             wrong++;
             if (wrong < 20) {
@@ -698,7 +703,11 @@ public final class ModelTest {
         } else if (kind < 80) {
             oneLook(x, m);
         } else if (kind < 92) {
-            oneText(x, m);
+            if (isOfTexts || random.nextInt(10) == 0) {
+                oneText(x, m);
+            } else {
+                oneChange(x, m);
+            }
         } else if (kind < 97) {
             due("undo", x.undo(), m.undo());
         } else if (kind < 98) {
@@ -722,22 +731,20 @@ public final class ModelTest {
         due("backShare", x.backShare(), m.state.paid() == 0 ? 0.0f : (float) m.state.back() / (float) m.state.paid());
     }
 
-    private static void compareGoods(SilkTariff x, Model m) {
-        for (int good = 0; good < m.state.goods.size(); good++) {
-            for (int what = 0; what <= 10; what++) {
-                due("goodOf " + good + " " + what, x.goodOf(good, what), m.goodOf(good, what));
-            }
-            for (int country = 0; country < 5; country++) {
-                due("would", x.would(good, country), m.state.duty(m.goodAt(good), country));
-                due("points", x.points(good, country), m.goodAt(good).points(country));
-            }
-            due("why", x.why(good), m.why(good));
-            due("fitAgain", x.fitAgain(good), m.fit(good, 0));
-            due("ranked", x.ranked(good), m.ranked(good));
-            due("cheapest", x.cheapest(good), m.cheapest(good));
-            for (int at = 0; at <= 11; at++) {
-                due("fit", x.fit(good, at), m.fit(good, at));
-            }
+    private static void compareGood(SilkTariff x, Model m, int good) {
+        for (int what = 0; what <= 10; what++) {
+            due("goodOf " + good + " " + what, x.goodOf(good, what), m.goodOf(good, what));
+        }
+        for (int country = 0; country < 5; country++) {
+            due("would", x.would(good, country), m.state.duty(m.goodAt(good), country));
+            due("points", x.points(good, country), m.goodAt(good).points(country));
+        }
+        due("why", x.why(good), m.why(good));
+        due("fitAgain", x.fitAgain(good), m.fit(good, 0));
+        due("ranked", x.ranked(good), m.ranked(good));
+        due("cheapest", x.cheapest(good), m.cheapest(good));
+        for (int at = 0; at <= 11; at++) {
+            due("fit", x.fit(good, at), m.fit(good, at));
         }
     }
 
@@ -786,19 +793,29 @@ public final class ModelTest {
     }
 
     public static void main(String[] args) {
+        int most = 0;
         for (int run = 0; run < RUNS; run++) {
             random = new Random(run);
+            isOfTexts = run % 3 == 0;
+            calls = 0;
             SilkTariff x = new SilkTariff();
             Model m = new Model();
-            for (int call = 0; call < CALLS; call++) {
-                place = "run " + run + ", call " + call;
+            for (int step = 0; calls <= CALLS - STEP_CALLS; step++) {
+                place = "run " + run + ", step " + step;
                 oneCall(x, m);
-                if (call % 16 == 0) {
+                if (step % 32 == 0) {
                     compareAll(x, m);
                 }
             }
             compareAll(x, m);
-            compareGoods(x, m);
+            if (!m.state.goods.isEmpty()) {
+                compareGood(x, m, random.nextInt(m.state.goods.size()));
+            }
+            most = Math.max(most, calls);
+        }
+        if (most > CALLS) {
+            wrong++;
+            System.out.println("a run had " + most + " calls");
         }
         robustness();
         System.out.println(wrong == 0 ? "the class and the model agree" : wrong + " answers are not alike");

@@ -772,7 +772,6 @@ public final class PromiseTest {
 
     private static void faults() {
         start(23);
-        SilkTariff x = new SilkTariff();
         Object[][] faults = {{"", 0}, {"x", 0}, {" ", 0}, {";", 0}, {"h", 1}, {"hx", 1}, {"head", 4}, {"head5", 4}, {"head ", 5},
             {"head x", 5}, {"head 5", 6}, {"head 123", 7}, {"head 12 ", 8}, {"head 1 s", 8}, {"head 1 ts", 7}, {"head 1 s ", 8},
             {"head 1 sl 2 3", 8}, {"head 1 ** 2", 11}, {"head 1 ** 2 ", 12}, {"head 1 ** 200 1", 12}, {"head 1 ** 2 111", 14},
@@ -789,23 +788,29 @@ public final class PromiseTest {
             {"day 10;day 1;day 1;day 1;day 1;day 1;day 1;day 1;day 1;day 1", -10}};
         for (Object[] fault : faults) {
             int at = (Integer) fault[1];
+            SilkTariff x = new SilkTariff();
             due(run(x, (String) fault[0]), at < 0 ? -at : -1000 - at);
             due(x.account(12), 0);
+            due(x.account(0), at < 0 ? 19 : 0);
+            due(x.account(13), at < 0 ? 1 : 0);
+            dueReason(x, NOTHING, NOTHING);
         }
-        due(x.account(0), 19);
-        due(x.account(13), 1);
-        dueReason(x, NOTHING, NOTHING);
+    }
+
+    private static SilkTariff houseOfRuns() {
+        SilkTariff x = new SilkTariff();
+        x.coins(7);
+        x.good(0, 1, 100, 0, 0, 0);
+        return x;
     }
 
     private static void refusedRuns() {
         start(23);
-        SilkTariff x = new SilkTariff();
-        x.coins(7);
-        x.good(0, 1, 100, 0, 0, 0);
         String[] texts = {"strike 99", "strike 5", "head 99 ** 1 1", "head 0 ** 1 1", "head 1 ** 61 1", "head 1 ** 1 21",
             "good t 0 1 1/1/1", "good t 1 0 1/1/1", "good t 1 1 50/50/1", "work 1 0 1", "work 0 5 1", "work 0 0 0", "favour 5=1",
             "favour 0=101", "coins 0", "coins 0000", "enter 0", "enter 1", "export 1", "day 0", "day 00"};
         for (int number = 0; number < texts.length; number++) {
+            SilkTariff x = houseOfRuns();
             boolean isFirst = number % 2 == 0;
             due(run(x, isFirst ? texts[number] : "coins 5;day 3;" + texts[number] + ";day 1"), REFUSED);
             dueReason(x, 6, isFirst ? 0 : 2);
@@ -814,6 +819,7 @@ public final class PromiseTest {
             due(x.account(12), 0);
             due(x.account(13), 2);
         }
+        SilkTariff x = houseOfRuns();
         due(run(x, "work 0 1 5;favour 1=90;enter 0;export 0;export 0"), REFUSED);
         dueReason(x, 6, 4);
         due(x.goodOf(0, 3), 0);
@@ -1136,9 +1142,7 @@ public final class PromiseTest {
         }
     }
 
-    // Each kind of change is undone from a house in which much has been before.
-    private static void undoOfEachKind() {
-        start(32);
+    private static SilkTariff houseOfChanges() {
         SilkTariff x = new SilkTariff();
         x.heading(1, 3, 0, 10, 1);
         x.good(0, 1, 50, 0, 0, 0);
@@ -1149,8 +1153,15 @@ public final class PromiseTest {
         for (int day = 1; day <= 12; day++) {
             x.days(1);
         }
-        int[] before = stateOf(x);
+        return x;
+    }
+
+    // Each kind of change is undone from a house in which much has been before.
+    private static void undoOfEachKind() {
+        start(32);
+        int[] before = stateOf(houseOfChanges());
         for (int kind = 0; kind < 10; kind++) {
+            SilkTariff x = houseOfChanges();
             boolean isDone = change(x, kind) >= 0;
             due(isDone ? 1 : 0, 1);
             due(x.account(13), 8);
@@ -1159,9 +1170,6 @@ public final class PromiseTest {
             for (int i = 0; i < before.length; i++) {
                 due(after[i], before[i]);
             }
-            x.days(1);
-            x.undo();
-            x.favour(3, 3);
         }
     }
 

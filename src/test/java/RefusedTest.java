@@ -556,7 +556,7 @@ public final class RefusedTest extends Checks {
             dueAlike(stateOf(restored), before);
             says("Promise 34", "Restores the snapshot, which stays. Nothing can be undone then.");
             Supplier<SilkTariff> often = then(restored, y -> {
-                for (int time = 0; time < 10; time++) {
+                for (int time = 0; time < 3; time++) {
                     change(y, which);
                     y.days(1);
                     y.undo();

@@ -261,11 +261,12 @@ public final class TextEdgeTest extends Checks {
             "good t 1 1 1/1000", "good t 1 1 1/1/1000", "work 100", "work 1 10", "work 1 1 100", "favour 10", "favour 1=1000",
             "coins 10000", "enter 100", "export 100", "day 100"};
         for (String fault : faults) {
-            due(run(x, fault), -1000 - (fault.length() - 1));
+            SilkTariff y = new SilkTariff();
+            due(run(y, fault), -1000 - (fault.length() - 1));
             String none = fault.replaceAll("\\d+$", "");
-            due(run(x, none), -1000 - none.length());
-            due(run(x, none + "-"), -1000 - none.length());
-            due(run(x, none + "+1"), -1000 - none.length());
+            due(run(y, none), -1000 - none.length());
+            due(run(y, none + "-"), -1000 - none.length());
+            due(run(y, none + "+1"), -1000 - none.length());
         }
     }
 
